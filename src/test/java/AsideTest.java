@@ -227,6 +227,7 @@ final class AsideTest {
     private static void kinds() {
         kinds(63, 2, 2);
         kinds(18, 1, 1, 3, 4);
+        kinds(1, 1, 1, 3, 3);
         kinds(6, 2, 1, 1, 2);
         kinds(40, 5, 1, 2, 1);
         kinds(8, 1, 1, 6, 5);

@@ -93,7 +93,8 @@ final class RandomRunsTest {
                 same("text(" + t + ", " + size + ")", x.text(t, size), m.text(t, size));
                 break;
             }
-            case 9: case 10: put(near(0, 3), i, any(2) == 0 ? near(-1000, 1000) : "bcflta0123456789 ".charAt(any(17))); break;
+            case 9: put(near(0, 3), i, near(-1000, 1000)); break;
+            case 10: put(near(0, 3), i, "bcflta0123456789 ".charAt(any(17))); break;
             case 11: {
                 int t = near(0, 3);
                 same("fault(" + t + ")", x.fault(t), m.fault(t));

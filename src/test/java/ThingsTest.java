@@ -106,7 +106,7 @@ final class ThingsTest {
         ThingsThrown x = Check.with("b0c1");
         x.toss(3);
         x.toss(4);
-        x.keep(1);
+        for (int k = 0; k <= 2; k++) x.keep(k);
         Check.write(x, 1, "f2l7a9");
         CHECK.due("11 fault tells nothing", x.fault(1), NONE);
         CHECK.due("11 and leaves THINGS", x.count(0), 2);
@@ -116,7 +116,7 @@ final class ThingsTest {
         CHECK.due("11 THE SKY", x.count(3), 4 + 128 + 512);
         CHECK.due("11 THROWS", x.count(6), 0);
         CHECK.due("11 kept SKIES", x.count(11), 0);
-        CHECK.found("11 kept SKIES go", x, x.on(1), NOTHING);
+        for (int k = 0; k <= 2; k++) CHECK.found("11 kept SKIES go", x, x.on(k), NOTHING);
     }
 
     private static void thing() {
@@ -150,6 +150,9 @@ final class ThingsTest {
         CHECK.due("13 TORCHES ahead of the later one", x.mark(0, 4), 1);
         CHECK.due("13 TORCHES ahead of the sooner one", x.mark(4, 4), 0);
         CHECK.due("13 THINGS behind an ANVIL", x.mark(5, 5), 4);
+        x.exchange(0, 4);
+        CHECK.due("13 EXCHANGED, the other one is later", x.mark(4, 4), 1);
+        CHECK.due("13 and this one sooner", x.mark(0, 4), 0);
         x.exchange(5, 2);
         CHECK.due("13 none behind it", x.mark(5, 5), 0);
         CHECK.due("13 a FEATHER that is DUE in 2", x.mark(2, 2), 1);

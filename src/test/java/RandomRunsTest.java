@@ -1,9 +1,12 @@
 /** Long runs of calls, chosen by a fixed row of numbers, on the class and on the Model: they answer alike. */
 final class RandomRunsTest {
-    private static final int RUNS = 1000, CALLS = 250;
+    private static final int RUNS = 5000;
+    /** An object answers 512 calls; a step makes at most 60 of them. */
+    private static final int MOST_CALLS = 512, MOST_IN_STEP = 60;
     private static final Check CHECK = new Check("RandomRunsTest");
 
     private long seed;
+    private int calls = 0;
     private String call = "";
     private final ThingsThrown x = new ThingsThrown();
     private final Model m = new Model();
@@ -23,8 +26,12 @@ final class RandomRunsTest {
         if (run % 8 != 0) {
             tellThings();
         }
-        for (int k = 0; k < CALLS && CHECK.isGood(); k++) {
-            call = "run " + run + ", call " + k + ": ";
+        // Without these, few runs of so few calls would come near to 40 DEEDS.
+        for (int k = 0; k < run % 4 - 1; k++) {
+            same("lots(20, 1 + run)", x.lots(20, 1 + run), m.lots(20, 1 + run));
+        }
+        for (int k = 0; calls <= MOST_CALLS - MOST_IN_STEP && CHECK.isGood(); k++) {
+            call = "run " + run + ", step " + k + ": ";
             step();
             compareState();
         }
@@ -45,6 +52,7 @@ final class RandomRunsTest {
     }
 
     private void same(String what, long got, long want) {
+        calls++;
         CHECK.due(call + what, got, want);
     }
 
@@ -124,8 +132,8 @@ final class RandomRunsTest {
         rowAnew(r, pairs ? n / 2 * 2 : n);
         for (int i = 0; i < n; i++) {
             if (pairs && i % 2 == 1) {
-                int h = x.at(r, i - 1) == 1 ? x.asked() : 1;
-                m.at(r, i - 1);
+                same("at(" + r + ", " + (i - 1) + ")", x.at(r, i - 1), m.at(r, i - 1));
+                int h = m.asked();
                 lay(r, i, any(4) == 0 ? near(1, 15) : Math.max(1, h + any(3) - 1));
             } else {
                 lay(r, i, any(60) == 0 ? near(1, 7) : 1 + any(7));

@@ -18,9 +18,12 @@ final class SkiesEdgesTest {
         fewestThrows();
         fewestRests();
         fewestFirst();
+        fewestOnlyWhatMayBe();
         waysRefused();
         waysNumbers();
         waysJustBehind();
+        waysOnlyWhatMayBe();
+        waysAnew();
         heightRefused();
         heightSkies();
         kindsRefused();
@@ -115,6 +118,21 @@ final class SkiesEdgesTest {
         fewest("the first HEIGHTS of three THROWS", "b0b1b2", 2 | 4 | 8, 3, 4, 4, 4);
     }
 
+    /** A TORCH can be DUE in 4, 6, 8 alone, an ANVIL in 1, 2, 3 alone: just behind a THROW 1 BEAT less. */
+    private static void fewestOnlyWhatMayBe() {
+        int[] torch = {0, 3, 3, 3, 5, 5, 7, 7};
+        int[] anvil = {0, 3, 4};
+        for (int beat = 1; beat <= 15; beat++) {
+            String what = "BEAT " + beat + ", by no HEIGHT that it can't be thrown to, ";
+            if (beat < torch.length) fewest(what + "a TORCH", "t0", 1 << beat, 1, torch[beat]);
+            else fewest(what + "a TORCH", "t0", 1 << beat, NONE, 777);
+            if (beat < anvil.length) fewest(what + "an ANVIL", "a0", 1 << beat, 1, anvil[beat]);
+            else fewest(what + "an ANVIL", "a0", 1 << beat, NONE, 777);
+        }
+        fewest("a THROW that would come down with another is none", "b0b1", 4, NONE, 777);
+        fewest("nor is one that would come down with it later", "b0b3", 1, NONE, 777);
+    }
+
     private static void waysRefused() {
         for (int n : new int[] {0, 5, -1, LEAST, MOST}) {
             E.refused("25 ways: " + n + " THROWS are BAD", Edges.things("b0"), x -> x.ways(n), BAD);
@@ -148,6 +166,26 @@ final class SkiesEdgesTest {
         ways("just behind the last", "c3", 1, 8 | 16, 2);
         ways("RESTS ahead of the first", "b2", 1, 8, 1);
         ways("RESTS between", "b2", 2, 254, 7);
+    }
+
+    private static void waysOnlyWhatMayBe() {
+        int[] torch = {0, 0, 0, 2, 0, 2, 0, 1, 0, 0};
+        int[] torchFirsts = {0, 0, 0, 8 | 16, 0, 32 | 64, 0, 128, 0, 0};
+        int[] anvil = {2, 1, 1, 0, 0, 0, 0, 0, 0, 0};
+        int[] anvilFirsts = {2 | 4, 8, 16, 0, 0, 0, 0, 0, 0, 0};
+        for (int due = 0; due <= 9; due++) {
+            ways("a TORCH DUE in " + due, "t" + due, 1, torchFirsts[due], torch[due]);
+            ways("a TORCH DUE in " + due + ", twice", "t" + due, 2, torch[due] > 0 ? 248 : 0, 5 * torch[due]);
+            ways("an ANVIL DUE in " + due, "a" + due, 1, anvilFirsts[due], anvil[due]);
+            ways("an ANVIL DUE in " + due + ", twice", "a" + due, 2, anvil[due] > 0 ? 30 : 0, 4 * anvil[due]);
+        }
+    }
+
+    private static void waysAnew() {
+        ThingsThrown x = E.taken("25 ways: first HEIGHTS of 2 THROWS", Edges.things("b0"), y -> y.ways(2), 1);
+        x.ways(1);
+        E.due("25 ways: then of 1 alone", x.asked(), 2);
+        E.due("25 ways: then of 1 alone, how many", x.upper(), 1);
     }
 
     private static void heightRefused() {

@@ -1095,7 +1095,8 @@ public final class ThingsThrown {
 
     /** What would come of THROWS that are only tried. RESTS stand ahead of a THROW as long as nothing is DUE. */
     private static final class Outlook {
-        private static final int COST_OF_NO_THROW = 100;
+        // What THINGS are DUE in, together, and the cost stay far within BEYOND_ALL.
+        private static final int COST_OF_NO_THROW = 100, BEYOND_ALL = 1000000;
 
         private final Troupe troupe;
         int duesThen = 0;
@@ -1243,7 +1244,7 @@ public final class ThingsThrown {
             if (heights == 0) {
                 return troupe.dueTogether(now) + (first ? -COST_OF_NO_THROW : COST_OF_NO_THROW);
             }
-            int best = first ? Integer.MIN_VALUE : Integer.MAX_VALUE;
+            int best = first ? -BEYOND_ALL : BEYOND_ALL;
             for (int height = LOWEST_HEIGHT; height <= HIGHEST_HEIGHT; height++) {
                 if ((heights >> height & 1) != 0) {
                     int value = bestFrom(troupe.thrown(now, height), left - 1);

@@ -22,6 +22,8 @@ final class LanguageTest {
         staticFieldsAreFinal();
         fewClassesFieldsAndParameters();
         sourceHasNoneOf();
+        libraryIsAsListed();
+        noCallMakesAnObject();
         methodsAreShort();
         CHECK.end();
     }
@@ -131,6 +133,36 @@ final class LanguageTest {
             CHECK.holds("no " + sign, !code.contains(sign));
         }
         CHECK.holds("signs 1 to 127 alone", code.chars().allMatch(c -> c > 0 && c < 128));
+    }
+
+    /** Rule 4: of these classes only functions, and no constant such as the least int. */
+    private static void libraryIsAsListed() throws IOException {
+        Set<String> inside = new TreeSet<>();
+        for (Class<?> c : allClasses()) {
+            inside.add(c.getSimpleName());
+        }
+        Set<String> listed = Set.of("Math.max", "Math.min", "Math.abs", "Math.floorDiv", "Math.floorMod",
+                "Integer.bitCount", "Integer.compare", "System.arraycopy", "Arrays.fill");
+        Matcher m = Pattern.compile("\\b([A-Z]\\w*[a-z]\\w*)\\.(\\w+)").matcher(code());
+        while (m.find()) {
+            CHECK.holds(m.group() + " is in the library that is listed",
+                    inside.contains(m.group(1)) || listed.contains(m.group()));
+        }
+    }
+
+    /** All of a run's calls live in one room: what an object needs is made with it, and used again. */
+    private static void noCallMakesAnObject() throws IOException {
+        boolean inConstructor = false;
+        for (String line : code().split("\n")) {
+            inConstructor = line.equals("    public ThingsThrown() {") || inConstructor && !line.equals("    }");
+            if (Pattern.compile("\\bnew\\b").matcher(line).find()) {
+                CHECK.holds("made with the object, not by a call: " + line.strip(),
+                        inConstructor || line.matches(" +(private )?final [\\w\\[\\]]+ \\w+ = new .*"));
+            }
+        }
+        for (String maker : new String[] {".clone(", "copyOf", "List<"}) {
+            CHECK.holds("no " + maker, !code().contains(maker));
+        }
     }
 
     private static void methodsAreShort() throws IOException {

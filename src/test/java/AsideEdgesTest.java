@@ -193,8 +193,12 @@ final class AsideEdgesTest {
         E.answers("23 rounds: all of them in one", of("b0b1b2b3b4b5", many(6, 6)), x -> x.rounds(0), 1);
         E.answers("23 rounds: 42", of("t0f9c4f1f3", 7, 5), x -> x.rounds(0), 42);
         E.answers("23 rounds: 54", of("f5c6f9c0f7", 7, 7, 4, 7, 4, 7), x -> x.rounds(0), 54);
-        // No row of throws is known that takes more rounds than these.
         E.answers("23 rounds: 66", of("f0c1f2f4c7", 7, 7, 2, 7, 7, 7, 7, 7, 7, 7, 2, 7), x -> x.rounds(0), 66);
+        E.answers("23 rounds: 72", of("c0c2f3f9f7", 7, 4, 7, 7, 4, 4, 7, 4, 7, 7, 7, 4, 7, 7, 7, 7, 7, 7, 4),
+                x -> x.rounds(0), 72);
+        // No row of throws is known that takes more rounds than this one.
+        E.answers("23 rounds: 90", of("f0f4f2c7c5", 7, 7, 7, 7, 7, 7, 7, 7, 2, 2, 5, 5, 5, 7, 7), x -> x.rounds(0),
+                90);
         E.answers("23 rounds: with 40 DEEDS, too, it is aside", Edges.things("b0b1").andThen(Edges.times(40,
                 x -> x.toss(2))).andThen(Edges.row(0, 2)), x -> x.rounds(0), 2);
     }
